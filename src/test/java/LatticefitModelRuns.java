@@ -18,6 +18,8 @@ import java.util.TreeSet;
  */
 public final class LatticefitModelRuns {
     private static final int RUNS = 100;
+    // Runs that only map are quick, and it takes many until the seventh best cut would matter.
+    private static final int MAPPED_RUNS = 3000;
     private static final int CALLS = 500;
 
     // 8 registers and 40 gates that need more than 36 blocks, found by random changes.
@@ -36,6 +38,11 @@ public final class LatticefitModelRuns {
         Map<String, Integer> answered = new TreeMap<>();
         for (int seed = firstSeed; seed < firstSeed + runs; seed++) {
             if (!new Run(seed, answered).agrees()) {
+                System.exit(1);
+            }
+        }
+        for (int seed = firstSeed; seed < firstSeed + MAPPED_RUNS; seed++) {
+            if (!new Run(seed, answered).mapsAlike()) {
                 System.exit(1);
             }
         }
@@ -96,6 +103,49 @@ public final class LatticefitModelRuns {
                 }
             }
             return !isWrong;
+        }
+
+        /** A circuit of gates that come together again and again, mapped, with all its blocks. */
+        boolean mapsAlike() {
+            int sources = 2 + random.nextInt(5);
+            for (int i = 0; i < sources; i++) {
+                does("addInput()", x -> x.addInput(), m -> m.addInput());
+            }
+            int gates = 5 + random.nextInt(44 - sources);
+            int near = 3 + random.nextInt(10);
+            for (int i = 0; i < gates; i++) {
+                char kind = "aoxn".charAt(random.nextInt(random.nextInt(3) == 0 ? 4 : 3));
+                int top = sources + i;
+                int first = top - 1 - random.nextInt(Math.min(top, near));
+                int reach = random.nextBoolean() ? Math.min(top, near) : top;
+                int second = top - 1 - random.nextInt(reach);
+                does("addGate('" + kind + "', " + first + ", " + second + ")",
+                        x -> x.addGate(kind, first, second), m -> m.addGate(kind, first, second));
+            }
+            for (int i = 0; i < 6; i++) {
+                int node = sources + gates - 1 - i % gates;
+                does("addOutput(" + node + ")", x -> x.addOutput(node), m -> m.addOutput(node));
+            }
+            does("map()", x -> x.map(), m -> m.map());
+            for (int i = 0; i < model.nodes.size() && model.isMapped; i++) {
+                int node = i;
+                does("depth(" + i + ")", x -> x.depth(node), m -> m.depth(node));
+                does("isNeeded(" + i + ")", x -> x.isNeeded(node), m -> m.isNeeded(node));
+            }
+            for (int i = 0; i < model.blocks.size(); i++) {
+                askBlock(i);
+            }
+            return !isWrong;
+        }
+
+        private void askBlock(int block) {
+            does("word(" + block + ")", x -> x.word(block), m -> m.word(block));
+            does("gateOf(" + block + ")", x -> x.gateOf(block), m -> m.gateOf(block));
+            for (int i = 0; i < 5; i++) {
+                int index = i;
+                does("inputOf(" + block + ", " + i + ")",
+                        x -> x.inputOf(block, index), m -> m.inputOf(block, index));
+            }
         }
 
         private void early() {

@@ -9,7 +9,8 @@ public final class LatticefitPromises {
     private static final Class<?> UNSUPPORTED = UnsupportedOperationException.class;
 
     // A circuit without inputs: 8 registers, 40 gates 'a', the nodes that feed the registers, and
-    // the outputs; it would need more than 36 blocks (found by searching with random changes).
+    // the outputs. It needs 36 blocks with the first five outputs, and more with the sixth (it was
+    // found by searching with random changes).
     private static final int[][] WIDE = {
         {3, 6}, {2, 6}, {8, 1}, {4, 1}, {5, 1}, {10, 1}, {9, 0}, {2, 4}, {11, 14}, {16, 11},
         {7, 2}, {17, 9}, {4, 9}, {1, 12}, {18, 2}, {0, 13}, {15, 13}, {18, 2}, {10, 18}, {26, 19},
@@ -373,14 +374,15 @@ public final class LatticefitPromises {
     private static void mappingTooWide() {
         promise = 8;
         Latticefit x = wide();
-        for (int output : WIDE_OUTPUTS) {
-            x.addOutput(output);
+        for (int j = 0; j < 5; j++) {
+            x.addOutput(WIDE_OUTPUTS[j]);
         }
+        due("map() of 36 blocks", x.map(), 36);
+        due("cellOf(35)", x.cellOf(35), 35);
+        due("isConsistent() of a full chip", x.isConsistent(), true);
+        x.addOutput(WIDE_OUTPUTS[5]);
         dueThrow("map() of more than 36 blocks", UNSUPPORTED, x::map);
         dueThrow("cost() after it", STATE, x::cost);
-        Latticefit y = wide();
-        y.addOutput(47);
-        due("map() of fewer blocks", y.map() <= 36, true);
     }
 
     private static void depths() {
@@ -517,7 +519,8 @@ public final class LatticefitPromises {
         dueThrow("fix(3, 0)", INDEX, () -> x.fix(3, 0));
         dueThrow("fix(-1, 0)", INDEX, () -> x.fix(-1, 0));
         x.route(20);
-        // Node 0 goes from crossing 1 to 0, 1 and 42; 1 from 0 to 43; 3 from 0 to 2; 4 from 2 to 44.
+        // The node 0 goes from crossing 1 to 0, 1 and 42, the node 1 from 0 to 43, the node 3 from 0
+        // to 2, and the node 4 from 2 to 44.
         due("fix(0, 1)", x.fix(0, 1), 7 + 7 + 2 + 6);
         due("cellOf(1)", x.cellOf(1), 0);
         due("isRouted()", x.isRouted(), false);
@@ -1132,6 +1135,37 @@ public final class LatticefitPromises {
         // The empty table in cell 1 is one for the row 0, and codes beyond all are false.
         due("chipOutput(0) again", x.chipOutput(0), true);
         rings();
+        farCodes();
+    }
+
+    private static void flipAll(Latticefit x, int frame, int index, int bits) {
+        for (int bit = 0; bit < 16; bit++) {
+            if ((bits >> bit & 1) == 1) {
+                x.flip(frame, index, bit);
+            }
+        }
+    }
+
+    /** The codes 168, the last wire, and 169, 199, 272, 299 and 306, of nothing. */
+    private static void farCodes() {
+        Latticefit x = xorStarted();
+        x.setInput(0, true);
+        x.setInput(1, true);
+        flipAll(x, 13, 0, 71 ^ 168);
+        due("chipOutput(0) from the wire 168, of nothing", x.chipOutput(0), false);
+        flipAll(x, 12, 11, 300);
+        due("chipOutput(0) from the wire 168, of an input", x.chipOutput(0), true);
+        due("circuitOutput(0)", x.circuitOutput(0), false);
+        flipAll(x, 12, 11, 300 ^ 168);
+        due("chipOutput(0) from a wire of itself", x.chipOutput(0), false);
+        int before = 168;
+        for (int code : new int[] {169, 199, 272, 299, 306, 65535}) {
+            flipAll(x, 13, 0, before ^ code);
+            flipAll(x, 0, 1, (before == 168 ? 300 : before) ^ code);
+            due("chipOutput(0) of " + code, x.chipOutput(0), false);
+            dueThrow("sourceOf(0, 0) of " + code, NONE, () -> x.sourceOf(0, 0));
+            before = code;
+        }
     }
 
     /** A table that inverts itself swings: after 40 times it has the value of the first one. */
@@ -1211,7 +1245,10 @@ public final class LatticefitPromises {
         due("sourceOf(0, 1)", x.sourceOf(0, 1), 1);
         dueThrow("sourceOf(0, 2)", NONE, () -> x.sourceOf(0, 2));
         dueThrow("sourceOf(35, 0)", NONE, () -> x.sourceOf(35, 0));
-        // 300 becomes 301 and then 303, an input that is not there.
+        // 300 becomes 302 and, from 301, 303: inputs that are not there.
+        x.flip(0, 1, 1);
+        dueThrow("sourceOf(0, 0) of 302", NONE, () -> x.sourceOf(0, 0));
+        x.flip(0, 1, 1);
         x.flip(0, 1, 0);
         due("sourceOf(0, 0) of 301", x.sourceOf(0, 0), 1);
         x.flip(0, 1, 1);
@@ -1268,19 +1305,11 @@ public final class LatticefitPromises {
         due("isBad(11)", x.isBad(11), false);
         x.flip(12, 11, 9);
         due("isBad(12), flipped back", x.isBad(12), false);
-        flipTo65521(x, 12, 3);
+        flipAll(x, 12, 3, 65521);
         due("isBad(12) with 65521 for 0, the same check", x.isBad(12), false);
         due("scrub() leaves it", x.scrub(), 0);
         due("flip(12, 3, 0) tells it", x.flip(12, 3, 0), 65520);
         due("isBad(12) now", x.isBad(12), true);
-    }
-
-    private static void flipTo65521(Latticefit x, int frame, int index) {
-        for (int bit = 0; bit < 16; bit++) {
-            if ((65521 >> bit & 1) == 1) {
-                x.flip(frame, index, bit);
-            }
-        }
     }
 
     private static void scrubs() {
