@@ -519,8 +519,8 @@ public final class LatticefitPromises {
         dueThrow("fix(3, 0)", INDEX, () -> x.fix(3, 0));
         dueThrow("fix(-1, 0)", INDEX, () -> x.fix(-1, 0));
         x.route(20);
-        // The node 0 goes from crossing 1 to 0, 1 and 42, the node 1 from 0 to 43, the node 3 from 0
-        // to 2, and the node 4 from 2 to 44.
+        // The node 0 goes from crossing 1 to 0, 1 and 42, the node 1 from 0 to 43, the node 3 from
+        // 0 to 2, and the node 4 from 2 to 44.
         due("fix(0, 1)", x.fix(0, 1), 7 + 7 + 2 + 6);
         due("cellOf(1)", x.cellOf(1), 0);
         due("isRouted()", x.isRouted(), false);
