@@ -273,7 +273,8 @@ public final class Latticefit {
         if (!isEdge(edge)) {
             throw new IndexOutOfBoundsException();
         }
-        return routes.users[edge];
+        // The routes of a circuit that has changed since still stand in the rows.
+        return stage < MAPPED ? 0 : routes.users[edge];
     }
 
     public int wireOf(int node, int edge)

@@ -1024,7 +1024,7 @@ public final class LatticefitModelRuns {
 
         int netsOn(int edge) {
             out(edge < 0 || edge > 83);
-            return hadNets[edge];
+            return isMapped ? hadNets[edge] : 0;
         }
 
         int someWire(int node, Random random) {

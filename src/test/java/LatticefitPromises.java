@@ -773,6 +773,8 @@ public final class LatticefitPromises {
         due("netsOn(0) behind fix()", x.netsOn(0), 1);
         x.map();
         due("netsOn(0) behind map()", x.netsOn(0), 0);
+        netsOnBehindChanges();
+        netsOnBehindRefusedMap();
         Latticefit y = tight();
         y.route(1);
         int most = 0;
@@ -780,6 +782,68 @@ public final class LatticefitPromises {
             most = Math.max(most, y.netsOn(edge));
         }
         due("more than 2 nets behind a route() that failed", most > 2, true);
+    }
+
+    private static void netsOnBehindChanges() {
+        Latticefit x = new Latticefit();
+        x.addInput();
+        int register = x.addRegister(false, 0);
+        x.addOutput(0);
+        routedOn0(x);
+        x.addInput();
+        noNets(x, "addInput()");
+        x.addRegister(true, 1);
+        noNets(x, "addRegister()");
+        x.addGate('n', 0, 0);
+        noNets(x, "addGate()");
+        x.feed(register, 0);
+        noNets(x, "feed()");
+        x.feed(register, 0);
+        noNets(x, "feed() by the same node");
+        x.addOutput(1);
+        noNets(x, "addOutput()");
+        dueThrow("addRegister(false, 3)", ARGUMENT, () -> x.addRegister(false, 3));
+        dueThrow("addGate('?', 0, 0)", ARGUMENT, () -> x.addGate('?', 0, 0));
+        dueThrow("feed(0, 0)", STATE, () -> x.feed(0, 0));
+        dueThrow("addOutput(48)", INDEX, () -> x.addOutput(48));
+        due("netsOn(0) > 0 behind changes that were refused", x.netsOn(0) > 0, true);
+    }
+
+    /** Asks behind a change, a refused route() and map(); leaves it routed anew. */
+    private static void noNets(Latticefit x, String change) {
+        dueThrow("route(20) behind " + change, STATE, () -> x.route(20));
+        due("nets on all edges behind " + change, netsOnAll(x), 0);
+        dueThrow("netsOn(84) behind " + change, INDEX, () -> x.netsOn(84));
+        x.map();
+        due("nets on all edges behind " + change + " and map()", netsOnAll(x), 0);
+        routedOn0(x);
+    }
+
+    private static void routedOn0(Latticefit x) {
+        x.map();
+        x.route(20);
+        due("netsOn(0) > 0 of the routed circuit", x.netsOn(0) > 0, true);
+    }
+
+    private static void netsOnBehindRefusedMap() {
+        Latticefit x = wide();
+        for (int j = 0; j < 5; j++) {
+            x.addOutput(WIDE_OUTPUTS[j]);
+        }
+        x.map();
+        x.route(1);
+        due("nets on all edges > 0", netsOnAll(x) > 0, true);
+        x.addOutput(WIDE_OUTPUTS[5]);
+        dueThrow("map() of more than 36 blocks", UNSUPPORTED, x::map);
+        due("nets on all edges behind a map() that was refused", netsOnAll(x), 0);
+    }
+
+    private static int netsOnAll(Latticefit x) {
+        int sum = 0;
+        for (int edge = 0; edge < 84; edge++) {
+            sum += x.netsOn(edge);
+        }
+        return sum;
     }
 
     private static void wires() {
@@ -1065,6 +1129,10 @@ public final class LatticefitPromises {
         z.start();
         z.tick(2);
         due("outputs, exchanged", outputsOf(z), "01");
+        // The word of a wire that stands where a cell's last word would, were there one more cell.
+        due("flip(6, 5, 0)", z.flip(6, 5, 0) % 2, 1);
+        due("tick(0)", z.tick(0), 2L);
+        due("outputs behind it", outputsOf(z), "01");
     }
 
     private static String outputsOf(Latticefit x) {
