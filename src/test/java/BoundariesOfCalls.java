@@ -203,12 +203,16 @@ public final class BoundariesOfCalls {
         chipRegister();
         sourceOf();
         sourcesThatAreNone();
+        sourcesOfFarCells();
         flip();
         isBad();
         scrub();
         agrees();
         fill();
         isConsistent();
+        fullCircuitPlaced();
+        fullCircuitStarted();
+        allCells();
         calls512();
         System.out.println(asked - wrong + " of " + asked + " answers are as due");
         if (wrong != 0) {
@@ -721,6 +725,14 @@ public final class BoundariesOfCalls {
         y.fix(0, 30);
         y.route(1);
         answers("worstStretch() beside a net with the length 0", 1.0, y::worstStretch);
+        says("26: the greatest one of the number of edges, divided by its length");
+        // The net 2 goes from crossing 0 to 7 by three edges, as two nets have the one between.
+        Latticefit z = at(MAPPED, "i r0 n0 r0 r0 f1,2 f3,2 f4,1 >0");
+        z.fix(0, 0);
+        z.fix(1, 6);
+        z.fix(2, 12);
+        z.route(1);
+        answers("worstStretch() of 3 edges for the length 1", 3.0, z::worstStretch);
     }
 
     // ---- bitstream
@@ -901,6 +913,23 @@ public final class BoundariesOfCalls {
         refused("sourceOf(0, 1) of 199", NONE, () -> x.sourceOf(0, 1));
     }
 
+    private static void sourcesOfFarCells() {
+        says("36: found from the frames alone, and from what is in the cells, 0 to 35");
+        for (int cell : new int[] {0, 1, 18, 19, 34, 35}) {
+            Latticefit x = at(MAPPED, "i r0 n0 f1,2 >1");
+            x.fix(0, cell);
+            x.route(20);
+            x.build();
+            int code = x.wordAt(cell / 6, 6 * (cell % 6) + 1);
+            x.start();
+            answers("sourceOf(" + cell + ", 0)", 0, () -> x.sourceOf(cell, 0));
+            flipTo(x, cell / 6, 6 * (cell % 6) + 1, code, 200 + 2 * cell);
+            answers("sourceOf() of the table in " + cell, 2, () -> x.sourceOf(cell, 0));
+            x.flip(cell / 6, 6 * (cell % 6) + 1, 0);
+            answers("sourceOf() of the register in " + cell, 1, () -> x.sourceOf(cell, 0));
+        }
+    }
+
     private static void flipTo(Latticefit x, int frame, int index, int from, int to) {
         for (int bit = 0; bit < 16; bit++) {
             if (((from ^ to) >> bit & 1) == 1) {
@@ -983,6 +1012,15 @@ public final class BoundariesOfCalls {
     private static void agrees() {
         says("40: IllegalStateException if the chip is not started");
         needs("agrees()", STARTED, Latticefit::agrees);
+        says("40: all outputs, from the first one on");
+        answers("agrees() as the first question", true, at(STARTED, "i n0 >1")::agrees);
+        Latticefit z = at(STARTED, "i i >0 >1");
+        z.setInput(0, true);
+        int first = at(BUILT, "i i >0 >1").wordAt(13, 0);
+        flipTo(z, 13, 0, first, 0);
+        answers("agrees() with the output 0 from nowhere", false, z::agrees);
+        z.setInput(0, false);
+        answers("agrees() with false for it", true, z::agrees);
         says("40: all outputs, up to the last one");
         Latticefit x = at(STARTED, "i i >0 >0 >0 >0 >0 >1");
         x.setInput(1, true);
@@ -992,6 +1030,14 @@ public final class BoundariesOfCalls {
         answers("agrees() with the output 5 from nowhere", false, x::agrees);
         x.setInput(1, false);
         answers("agrees() with false for it", true, x::agrees);
+        says("40: and so have the registers, from the first one on");
+        Latticefit w = at(STARTED, "R0 R1 >1");
+        w.flip(0, 0, 1);
+        w.tick(1);
+        answers("agrees(), as the clock is another one", true, w::agrees);
+        w.tick(0);
+        answers("agrees() with the register 0 wrong", false, w::agrees);
+        answers("chipOutput(0), the other one", true, () -> w.chipOutput(0));
         says("40: and so have the registers, up to the last one");
         Latticefit y = at(STARTED, "R0 R0 R0 R0 R0 R0 R0 R1 >0");
         answers("agrees()", true, y::agrees);
@@ -1012,6 +1058,9 @@ public final class BoundariesOfCalls {
         y.fix(0, 24);
         y.route(1);
         answers("fill() of two wires", 2f / 168f, y::fill);
+        answers("fill() of six wires, the edge 0 among them", 6f / 168f, at(ROUTED, "i >0")::fill);
+        answers("fill() of seven wires, one of them to crossing 0", 7f / 168f,
+                at(ROUTED, "i i n1 >2")::fill);
     }
 
     private static void isConsistent() {
@@ -1029,6 +1078,100 @@ public final class BoundariesOfCalls {
         answers("isConsistent() of 36 blocks", true, x::isConsistent);
         x.anneal(3, 200, 50);
         answers("isConsistent() behind swaps", true, x::isConsistent);
+    }
+
+    /** 6 inputs, 8 registers, 34 gates 'n' in a row from the last register on, and 6 outputs. */
+    private static String fullCircuit() {
+        StringBuilder circuit = new StringBuilder("i i i i i i R0 r1 r2 R0 r1 r2 R0 R1");
+        for (int node = 13; node < 47; node++) {
+            circuit.append(" n").append(node);
+        }
+        for (int register = 6; register < 14; register++) {
+            circuit.append(" f").append(register).append(',').append(register + 34);
+        }
+        return circuit.append(" >47 >46 >0 >5 >6 >13").toString();
+    }
+
+    private static void fullCircuitPlaced() {
+        says("at most 48 nodes, 6 inputs, 8 registers, 6 outputs: all calls for all of them");
+        Latticefit x = at(ROUTED, fullCircuit());
+        answers("isRouted()", true, x::isRouted);
+        for (int i = 0; i < 48; i++) {
+            int node = i;
+            boolean isNeeded = node >= 40;
+            answers("depth(" + i + ")", node < 14 ? 0 : 1, () -> x.depth(node));
+            answers("isNeeded(" + i + ")", isNeeded, () -> x.isNeeded(node));
+            if (isNeeded) {
+                answers("timeOf(" + i + ") is 3 or more", true, () -> x.timeOf(node) >= 3);
+            } else {
+                answers("timeOf(" + i + ")", node < 14 ? 0 : NONE, () -> x.timeOf(node));
+            }
+        }
+        for (int i = 0; i < 8; i++) {
+            int block = i;
+            answers("registerOf(" + i + ")", 6 + block, () -> x.registerOf(block));
+            answers("gateOf(" + i + ")", 40 + block, () -> x.gateOf(block));
+            answers("word(" + i + ")", block % 2 == 0 ? 21845 : 43690, () -> x.word(block));
+            answers("inputOf(" + i + ", 0)", 13, () -> x.inputOf(block, 0));
+            refused("inputOf(" + i + ", 1)", NONE, () -> x.inputOf(block, 1));
+            answers("cellOf(" + i + ")", block, () -> x.cellOf(block));
+        }
+        answers("excess()", 1, x::excess);
+        answers("cost() is there", true, () -> x.cost() > 6);
+        answers("slowest() is there", true, () -> x.slowest() > 6);
+        answers("worstStretch() is there", true, () -> x.worstStretch() >= 1.0);
+        answers("fill() is there", true, () -> x.fill() > 0f);
+        answers("isConsistent()", true, x::isConsistent);
+    }
+
+    private static void fullCircuitStarted() {
+        says("at most 48 nodes, 6 inputs, 8 registers, 6 outputs: the chip of all of them");
+        Latticefit x = at(STARTED, fullCircuit());
+        String[] due = {"100011", "100001", "100001", "100001"};
+        for (int step = 0; step < 4; step++) {
+            if (step > 0) {
+                int clock = step - 1;
+                answers("tick(" + clock + ")", (long) step, () -> x.tick(clock));
+            }
+            for (int j = 0; j < 6; j++) {
+                int output = j;
+                boolean isOne = due[step].charAt(j) == '1';
+                answers("circuitOutput(" + j + ")", isOne, () -> x.circuitOutput(output));
+                answers("chipOutput(" + j + ")", isOne, () -> x.chipOutput(output));
+            }
+            answers("agrees()", true, x::agrees);
+        }
+        for (int i = 0; i < 8; i++) {
+            int cell = i;
+            answers("chipRegister(" + i + ")", cell % 2 == 1, () -> x.chipRegister(cell));
+            answers("sourceOf(" + i + ", 0)", 13, () -> x.sourceOf(cell, 0));
+        }
+        answers("setInput(5, true)", false, () -> x.setInput(5, true));
+        answers("circuitOutput(3)", true, () -> x.circuitOutput(3));
+        answers("chipOutput(3)", true, () -> x.chipOutput(3));
+        answers("start()", 6, x::start);
+        answers("chipRegister(0)", true, () -> x.chipRegister(0));
+        answers("agrees() behind start()", true, x::agrees);
+    }
+
+    /** 36 blocks never are routed, but all that can be asked until then has an answer. */
+    private static void allCells() {
+        says("There are 36 cells");
+        Latticefit x = at(MAPPED, CROWD + " >0 f0,0");
+        answers("cost() is there", true, () -> x.cost() > 36);
+        answers("excess()", 0, x::excess);
+        answers("anneal() with swaps", true, () -> x.anneal(5, 200, 50) > 0);
+        answers("route(1)", 1, () -> x.route(1));
+        answers("isRouted()", false, x::isRouted);
+        boolean[] isTaken = new boolean[36];
+        for (int block = 0; block < 36; block++) {
+            due("a cell for each block", isTaken[x.cellOf(block)], false);
+            isTaken[x.cellOf(block)] = true;
+        }
+        int last = x.cellOf(35);
+        answers("fix(35, 35)", true, () -> x.fix(35, 35) > 36);
+        answers("cellOf(35), exchanged from " + last, 35, () -> x.cellOf(35));
+        answers("isConsistent()", true, x::isConsistent);
     }
 
     private static void calls512() {

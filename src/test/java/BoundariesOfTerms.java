@@ -152,6 +152,7 @@ public final class BoundariesOfTerms {
         registersThatPassOn();
         gatesWithoutBlocks();
         cellsAtFirst();
+        fewerBlocksThanBefore();
         crossingsOfCells();
         crossingsOfInputsAndOutputs();
         nodesWithoutNets();
@@ -444,6 +445,33 @@ public final class BoundariesOfTerms {
         answers("fix(0, 35)", UNSUPPORTED, () -> x.fix(0, 35));
     }
 
+    private static void fewerBlocksThanBefore() {
+        says("Maps the circuit, and places its blocks anew, also if there are fewer of them");
+        String circuit = "i i i i i a0,1 a2,3 a5,6 a7,4 r0 f9,8 >0";
+        Latticefit x = of(circuit);
+        answers("map() with a gate in the cut of the register's", 2, x::map);
+        answers("cost()", 7 + 0 + 1 + 2 + 4 + 1, x::cost);
+        x.feed(9, 9);
+        answers("map() without gates", 1, x::map);
+        Latticefit y = mapped(circuit + " f9,9");
+        answers("cost()", 6, x::cost);
+        answers("cost() as at once", 6, y::cost);
+        answers("word(1)", INDEX, () -> x.word(1));
+        answers("fix(1, 0)", INDEX, () -> x.fix(1, 0));
+        answers("isNeeded(7)", false, () -> x.isNeeded(7));
+        answers("isNeeded(8)", false, () -> x.isNeeded(8));
+        answers("anneal() of 1 and 35, both empty", 0, () -> swap(x, 1, 35, 50));
+        answers("route(20)", 1, () -> x.route(20));
+        y.route(20);
+        for (int edge = 0; edge < 84; edge++) {
+            int at = edge;
+            answers("netsOn(" + edge + ")", y.netsOn(edge), () -> x.netsOn(at));
+        }
+        answers("timeOf(7)", NoSuchElementException.class, () -> x.timeOf(7));
+        answers("slowest()", 6, x::slowest);
+        answers("build()", y.build(), x::build);
+    }
+
     // ---- crossings and nets
 
     private static void crossingsOfCells() {
@@ -713,7 +741,7 @@ public final class BoundariesOfTerms {
 
     private static void heatStaysAtOne() {
         says("down to 1");
-        // To another column the cost stays the same, which is less than 1 greater, but not than 0.
+        // To another column the cost stays the same: that is less than 1 greater, but not than 0.
         for (int steps : new int[] {1, 8, 9, 16, 17, 25, 33}) {
             int seed = seedFor(steps, 0, 30);
             for (int heat = 1; heat <= 3; heat++) {
@@ -721,6 +749,14 @@ public final class BoundariesOfTerms {
                 answers("anneal(" + seed + ", " + steps + ", " + heat + ")", 1,
                         () -> lone().anneal(seed, steps, warm));
             }
+        }
+        // In cell 1 the cost is 8 for 7: the heat must still be 2.
+        int[][] due = {{1, 1, 0}, {1, 2, 1}, {8, 1, 0}, {8, 2, 1}, {9, 1, 0}, {9, 2, 0},
+            {9, 3, 1}, {16, 2, 0}, {16, 3, 1}, {17, 1, 0}, {17, 2, 0}, {17, 3, 0}, {17, 4, 1}};
+        for (int[] at : due) {
+            int seed = seedFor(at[0], 0, 1);
+            answers("anneal(" + seed + ", " + at[0] + ", " + at[1] + ") to one more", at[2],
+                    () -> mapped("i i x0,1 >2").anneal(seed, at[0], at[1]));
         }
     }
 }

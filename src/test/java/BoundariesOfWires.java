@@ -143,6 +143,7 @@ public final class BoundariesOfWires {
     public static void main(String[] args) {
         roundsAllowed();
         roundsThatStart();
+        routesAfterMoves();
         netsInTurn();
         sinksInTurn();
         tollsOfRounds();
@@ -169,6 +170,8 @@ public final class BoundariesOfWires {
         longWays();
         ringsOfWires();
         fortyTimes();
+        allTablesSwing();
+        rowsOfTables();
         registersThatTake();
         startsOfRegisters();
         inputsOfBoth();
@@ -225,6 +228,29 @@ public final class BoundariesOfWires {
         answers("route(20) behind it", 20, () -> y.route(20));
         answers("route(19) behind it", 19, () -> y.route(19));
         answers("isRouted()", false, y::isRouted);
+    }
+
+    private static void routesAfterMoves() {
+        says("At first, no net has edges: each call of route() has the sinks of now");
+        Latticefit x = mapped("i r0 n0 f1,2 r0 >0 >1");
+        x.fix(0, 35);
+        Latticefit y = mapped("i r0 n0 f1,2 r0 >0 >1");
+        answers("route(20) in cell 0", 1, () -> y.route(20));
+        y.build();
+        y.fix(0, 35);
+        x.route(20);
+        answers("route(20) in cell 35", 1, () -> y.route(20));
+        answers("the nets as at once", netsOf(x), () -> netsOf(y));
+        answers("fill() as at once", x.fill(), y::fill);
+        answers("slowest() as at once", x.slowest(), y::slowest);
+        says("All that is not there is 0, also if there was something before");
+        answers("build() as at once", x.build(), y::build);
+        for (int frame = 0; frame < 14; frame++) {
+            int at = frame;
+            answers("check(" + frame + ") as at once", x.check(frame), () -> y.check(at));
+        }
+        answers("wordAt(0, 0), where the block was", 0, () -> y.wordAt(0, 0));
+        answers("wordAt(5, 30), where it is", 21845, () -> y.wordAt(5, 30));
     }
 
     private static void netsInTurn() {
@@ -302,6 +328,10 @@ public final class BoundariesOfWires {
         // Found by searching: if the first toll stayed, it would take 2 rounds.
         routes("r0 r0 r0 f0,2 f1,0 >1", 1, "210000010000001000000100000010000001000000 "
                 + "210000100000000000000000000000000000000000");
+        says("the one with the least toll");
+        // Found by searching: if a toll that is just 1 less did not count, it would go otherwise.
+        routes("i i r0 x2,0 o0,1 f2,1 >3 >0 >4", 3, "122000011100001110000111000011100001110000 "
+                + "220000210000000000000000000000000000000000");
         says("so a way goes between the rows first, and then along the row of its sink");
         routes("i i i i i i >5", 1, "100000010000001000000100000010000001000000 "
                 + "111110000000000000000000000000000000000000");
@@ -440,6 +470,18 @@ public final class BoundariesOfWires {
         z.fix(0, 2);
         z.route(1);
         answers("slowest(), 2 edges away, and 6 to the output", 6, z::slowest);
+        says("of blocks with a register, of all of them");
+        // The gate 2 has its value at 3, arrives at the block 1 at 6, and is passed on at 9.
+        Latticefit last = mapped("i r0 n0 r0 r0 f1,2 f3,2 f4,1 >0");
+        last.fix(0, 0);
+        last.fix(1, 6);
+        last.fix(2, 12);
+        last.route(1);
+        answers("slowest(), of the block 1", 9, last::slowest);
+        Latticefit eighth = mapped("i r0 r0 r0 r0 r0 r0 r0 r0 f8,0 >0");
+        eighth.fix(7, 35);
+        eighth.route(1);
+        answers("slowest(), of the block 7", 13, eighth::slowest);
     }
 
     private static void slowestOutputs() {
@@ -539,6 +581,8 @@ public final class BoundariesOfWires {
         z.fix(0, 30);
         z.route(1);
         answers("build() of a table, a code, a register, a wire and an output", 5, z::build);
+        answers("build() of a table and a code in the frame 0, six wires and an output", 9,
+                () -> routed("i n0 >1").build());
     }
 
     private static void wordsOfRegisters() {
@@ -811,6 +855,77 @@ public final class BoundariesOfWires {
         }
     }
 
+    private static void allTablesSwing() {
+        says("The values of all tables are false at first, and then found anew 40 times");
+        // All 36 tables invert themselves: they are one after each odd time.
+        Latticefit x = started("i >0");
+        for (int cell = 0; cell < 36; cell++) {
+            x.flip(cell / 6, 6 * (cell % 6), 0);
+            flipTo(x, cell / 6, 6 * (cell % 6) + 1, 0, 200 + 2 * cell);
+        }
+        int before = 71;
+        for (int cell : new int[] {0, 1, 17, 34, 35}) {
+            flipTo(x, 13, 0, before, 200 + 2 * cell);
+            before = 200 + 2 * cell;
+            answers("chipOutput(0) of cell " + cell, false, () -> x.chipOutput(0));
+        }
+        // Now that of the cell 35 is one in each row.
+        x.flip(5, 30, 1);
+        answers("chipOutput(0) of cell 35", true, () -> x.chipOutput(0));
+    }
+
+    private static void rowsOfTables() {
+        says("the value of the gate if the input j of the table has the value of bit j of k");
+        for (String gates : new String[] {"a0,1 a2,3 a4,5", "o0,1 o2,3 o4,5", "x0,1 x2,3 x4,5",
+            "a0,1 o2,3 x4,5", "n0 a4,3 o5,2 a6,1", "n3 x4,2 n1 o5,6 a7,0"}) {
+            int gate = 3 + gates.split(" ").length;
+            Latticefit x = started("i i i i " + gates + " >" + gate);
+            for (int k = 0; k < 16; k++) {
+                for (int j = 0; j < 4; j++) {
+                    x.setInput(j, (k >> j & 1) == 1);
+                }
+                boolean due = valueOf(gates, k);
+                String row = " of row " + k + " of " + gates;
+                answers("circuitOutput(0)" + row, due, () -> x.circuitOutput(0));
+                answers("chipOutput(0)" + row, due, () -> x.chipOutput(0));
+                answers("agrees()" + row, true, x::agrees);
+                answers("word(0)" + row, due, () -> (x.word(0) >> rowOf(x)) % 2 == 1);
+            }
+        }
+    }
+
+    /** The row that the inputs of the table in cell 0 have; it sets no input otherwise. */
+    private static int rowOf(Latticefit x) {
+        int row = 0;
+        for (int j = 0; j < 4; j++) {
+            boolean isOne = x.setInput(x.inputOf(0, j), true);
+            x.setInput(x.inputOf(0, j), isOne);
+            row |= isOne ? 1 << j : 0;
+        }
+        return row;
+    }
+
+    private static boolean valueOf(String gates, int k) {
+        boolean[] values = new boolean[12];
+        for (int j = 0; j < 4; j++) {
+            values[j] = (k >> j & 1) == 1;
+        }
+        int at = 4;
+        for (String gate : gates.split(" ")) {
+            String[] inputs = gate.substring(1).split(",");
+            boolean one = values[Integer.parseInt(inputs[0])];
+            boolean other = values[Integer.parseInt(inputs[inputs.length - 1])];
+            switch (gate.charAt(0)) {
+                case 'a' -> values[at] = one && other;
+                case 'o' -> values[at] = one || other;
+                case 'x' -> values[at] = one != other;
+                default -> values[at] = !one;
+            }
+            at++;
+        }
+        return values[at - 1];
+    }
+
     private static void registersThatTake() {
         says("takes values if the last word of the cell is odd; its clock is it by 4, modulo 4");
         // The table of the cell 35, without inputs, has the value of its bit 0.
@@ -832,6 +947,15 @@ public final class BoundariesOfWires {
                     x.flip(5, 30, 0);
                 }
             }
+        }
+        says("the register of a cell: words of wires are none of theirs");
+        Latticefit z = started("i >0");
+        flipTo(z, 6, 5, 0, 1);
+        flipTo(z, 6, 11, 0, 1);
+        answers("tick(0)", 1L, () -> z.tick(0));
+        for (int cell : new int[] {0, 5, 30, 35}) {
+            int at = cell;
+            answers("chipRegister(" + cell + ")", false, () -> z.chipRegister(at));
         }
         says("otherwise it keeps its value, which codes tell all the same");
         Latticefit y = started("R0 >0");
