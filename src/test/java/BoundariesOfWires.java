@@ -232,9 +232,9 @@ public final class BoundariesOfWires {
 
     private static void routesAfterMoves() {
         says("At first, no net has edges: each call of route() has the sinks of now");
-        Latticefit x = mapped("i r0 n0 f1,2 r0 >0 >1");
+        Latticefit x = mapped("i i r0 n1 f2,3 r0 >1 >2");
         x.fix(0, 35);
-        Latticefit y = mapped("i r0 n0 f1,2 r0 >0 >1");
+        Latticefit y = mapped("i i r0 n1 f2,3 r0 >1 >2");
         answers("route(20) in cell 0", 1, () -> y.route(20));
         y.build();
         y.fix(0, 35);
